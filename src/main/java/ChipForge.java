@@ -89,7 +89,7 @@ public final class ChipForge {
             case 5:
                 return routed ? channel.track[n] : 0;
             case 6:
-                return routed ? channel.length(n) : 0;
+                return routed ? channel.wireLength(n) : 0;
             default:
                 throw new IllegalArgumentException("nothing of a net has this number");
         }
@@ -407,7 +407,7 @@ public final class ChipForge {
             return tracks + 2;
         }
 
-        int length(int n) {
+        int wireLength(int n) {
             if (track[n] == 0) {
                 return 0;
             }
@@ -421,7 +421,7 @@ public final class ChipForge {
             if (track[n] == 0) {
                 return 0.0;
             }
-            double length = length(n);
+            double length = wireLength(n);
             return 0.25 * length * (0.5 * length + netlist.pins(n));
         }
     }
@@ -533,8 +533,8 @@ public final class ChipForge {
         }
 
         /** The least spot of the group. */
-        private int group(int spot) {
-            int at = spot;
+        private int group(int start) {
+            int at = start;
             for (int step = 0; step < SPOTS && lesser[at] != at; step++) {
                 // Halves the way for those who come later.
                 lesser[at] = lesser[lesser[at]];
@@ -595,19 +595,28 @@ public final class ChipForge {
         int shortPairs() {
             int found = 0;
             for (int n = 0; n < NETS; n++) {
-                found += Integer.bitCount(netsJoinedBelow(n));
+                // The nets below n alone, so that each pair is counted once.
+                int below = (1 << n) - 1;
+                found += Integer.bitCount(netsJoinedWith(n) & below);
             }
             return found;
         }
 
-        /** As bits the nets with a lesser number, so that each pair is counted once. */
-        private int netsJoinedBelow(int n) {
+        private int netsJoinedWith(int n) {
             int nets = 0;
             for (int e = 0; e < ends; e++) {
-                for (int f = 0; endNet[e] == n && f < ends; f++) {
-                    if (endNet[f] < n && endGroup[e] == endGroup[f]) {
-                        nets |= 1 << endNet[f];
-                    }
+                if (endNet[e] == n) {
+                    nets |= netsInGroup(endGroup[e]);
+                }
+            }
+            return nets;
+        }
+
+        private int netsInGroup(int wanted) {
+            int nets = 0;
+            for (int e = 0; e < ends; e++) {
+                if (endGroup[e] == wanted) {
+                    nets |= 1 << endNet[e];
                 }
             }
             return nets;

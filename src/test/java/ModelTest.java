@@ -1,5 +1,6 @@
 import java.util.ArrayDeque;
 import java.util.ArrayList;
+import java.util.Arrays;
 import java.util.Comparator;
 import java.util.Deque;
 import java.util.HashMap;
@@ -14,6 +15,13 @@ import java.util.TreeMap;
 public final class ModelTest {
     private static final int RUNS = 400;
     private static final int CALLS = 512;
+
+    private static final String[] NAMES = {
+        "gate", "clear", "route", "column", "net", "mask", "damage", "joined", "faults", "time",
+        "delay", "arrival", "simulate", "count"
+    };
+
+    private static final int[] LIMITS_OF_FIRST = {4, 1, 1, 12, 12, 11, 11, 12, 2, 4, 12, 12, 1, 6};
 
     public static void main(String[] args) {
         Map<String, Integer> seen = new TreeMap<>();
@@ -45,29 +53,26 @@ public final class ModelTest {
             seen.merge(name + (thrown ? " " + want : ""), 1, Integer::sum);
             if (!want.equals(got)) {
                 System.out.println("run " + run + ", call " + call + ": " + name
-                        + java.util.Arrays.toString(p) + " answered " + got + ", due is " + want);
+                        + Arrays.toString(p) + " answered " + got + ", due is " + want);
                 return 1;
             }
         }
         return 0;
     }
 
-    private static final String[] NAMES = {
-        "gate", "clear", "route", "column", "net", "mask", "damage", "joined", "faults", "time",
-        "delay", "arrival", "simulate", "count"
-    };
-
-    private static final int[] LIMITS_OF_FIRST = {4, 1, 1, 12, 12, 11, 11, 12, 2, 4, 12, 12, 1, 6};
-
+    /** Seldom what undoes a routing, so that damage gathers and is looked at. */
     private static int pick(Random random, Model model, int gateWish) {
         if (model.gates.size() < gateWish && random.nextInt(3) > 0) {
             return 0;
         }
-        int method = random.nextInt(NAMES.length);
-        if (method == 0 && random.nextInt(8) > 0 || method == 1 && random.nextInt(12) > 0) {
-            method = 2 + random.nextInt(NAMES.length - 2);
+        if (model.drawing == null && random.nextInt(3) == 0) {
+            return 2;
         }
-        return model.drawing == null && random.nextInt(3) == 0 ? 2 : method;
+        int method = random.nextInt(NAMES.length);
+        if (method <= 2 && random.nextInt(10) > 0) {
+            method = 3 + random.nextInt(NAMES.length - 3);
+        }
+        return method;
     }
 
     /** Mostly numbers that are as said, now and then one that is not. */
