@@ -35,8 +35,10 @@ public final class EdgesOfDrawingTest {
         padAndPinOfOneColumn();
         netOfOneColumnIsOpen();
         netsThatAreNotWired();
+        onePinAloneIsShort();
         nothingIsLeft();
         everythingIsJoined();
+        fewerPinsThanBefore();
         noNetsAtAll();
         countOfAllPoints();
         CHECKS.end();
@@ -444,6 +446,22 @@ public final class EdgesOfDrawingTest {
         faults("and one has 25", z, 1, 0);
     }
 
+    private static void onePinAloneIsShort() {
+        CHECKS.about("SHORT if a PIN (or PAD) of one is joined with one of the other");
+        ChipForge x = Chips.smallRouted();
+        x.damage(1, 1, 0);
+        faults("the pin of 0 is cut off", x, 1, 0);
+        x.damage(0, 1, 7);
+        x.damage(0, 2, 6);
+        faults("it is joined with net 1", x, 1, 1);
+        ChipForge y = Chips.routed(Chips.wide(1));
+        y.damage(2, 23, 0);
+        faults("the last pin of 7 is cut off", y, 1, 0);
+        y.damage(3, 22, 5);
+        y.damage(3, 23, 4);
+        faults("it is joined with net 11", y, 1, 1);
+    }
+
     private static void nothingIsLeft() {
         CHECKS.about("How many NETS are OPEN: all of them");
         faults("two", fill(Chips.smallRouted(), 4, 0), 2, 0);
@@ -460,6 +478,20 @@ public final class EdgesOfDrawingTest {
         faults("nine", fill(nineRouted(), 11, 7), 0, 36);
         faults("twelve", fill(Chips.routed(Chips.ring()), 6, 7), 0, 66);
         faults("twelve with 36 pins", fill(Chips.routed(Chips.fullest()), 11, 7), 0, 66);
+    }
+
+    private static void fewerPinsThanBefore() {
+        CHECKS.about("FOUND are by THE DRAWING as it is now: nothing is left of one with more PINS");
+        ChipForge x = fill(Chips.routed(Chips.fullest()), 11, 7);
+        faults("all are joined", x, 0, 66);
+        x.clear();
+        x.gate(0, 0, 0, 1, 0);
+        x.gate(1, 1, 0, 2, 1);
+        x.route();
+        faults("as routed", x, 0, 0);
+        x.damage(0, 0, 1);
+        x.damage(0, 1, 6);
+        faults("net 0 goes to the first point", x, 0, 0);
     }
 
     private static void noNetsAtAll() {

@@ -227,13 +227,17 @@ public final class EdgesOfSignalsTest {
         CHECKS.due("from outside", 0.0, () -> Chips.smallRouted().arrival(0));
         CHECKS.due("no pins", 0.0, () -> Chips.smallRouted().arrival(3));
         CHECKS.due("no gates", 0.0, () -> Chips.emptyRouted().arrival(0));
-        ChipForge x = Chips.smallRouted();
-        CHECKS.due("driven", 2.0, () -> x.arrival(1));
-        x.clear();
-        x.gate(0, 1, 0, 2, 0);
-        x.route();
-        CHECKS.due("driven no more", 0.0, () -> x.arrival(1));
-        CHECKS.due("behind that", 2.0, () -> x.arrival(2));
+        for (int net = 0; net < 12; net++) {
+            int n = net;
+            int other = (n + 1) % 12;
+            ChipForge x = Chips.routed(Chips.of(new int[] {0, other, 0, n, 0}));
+            CHECKS.due("driven: arrival(" + n + ")", 2.0, () -> x.arrival(n));
+            x.clear();
+            x.gate(0, n, 0, other, 0);
+            x.route();
+            CHECKS.due("driven no more: arrival(" + n + ")", 0.0, () -> x.arrival(n));
+            CHECKS.due("behind that", 2.0, () -> x.arrival(other));
+        }
     }
 
     private static void arrivalFromTheFirstInputOn() {
