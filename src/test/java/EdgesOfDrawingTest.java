@@ -454,6 +454,11 @@ public final class EdgesOfDrawingTest {
         x.damage(0, 1, 7);
         x.damage(0, 2, 6);
         faults("it is joined with net 1", x, 1, 1);
+        ChipForge z = Chips.routed(Chips.of(new int[][] {{0, 1, 0, 0, 0}, {1, 0, 0, 2, 1}}));
+        z.damage(1, 1, 0);
+        z.damage(0, 1, 7);
+        z.damage(0, 2, 6);
+        faults("the pin of the greater net alone", z, 1, 1);
         ChipForge y = Chips.routed(Chips.wide(1));
         y.damage(2, 23, 0);
         faults("the last pin of 7 is cut off", y, 1, 0);
@@ -483,15 +488,26 @@ public final class EdgesOfDrawingTest {
     private static void fewerPinsThanBefore() {
         CHECKS.about("FOUND are by THE DRAWING as it is now: nothing is left of one with more PINS");
         ChipForge x = fill(Chips.routed(Chips.fullest()), 11, 7);
-        faults("all are joined", x, 0, 66);
+        faults("36 pins are joined", x, 0, 66);
+        toSmall(x);
+        x.damage(0, 0, 1);
+        x.damage(0, 1, 6);
+        faults("net 0 goes to the first point", x, 0, 0);
+        ChipForge y = fill(Chips.routed(Chips.ring()), 6, 7);
+        faults("24 pins are joined", y, 0, 66);
+        toSmall(y);
+        y.damage(0, 0, 1);
+        y.damage(0, 1, 3);
+        y.damage(0, 2, 6);
+        faults("net 1 goes to the first point", y, 0, 0);
+    }
+
+    private static void toSmall(ChipForge x) {
         x.clear();
         x.gate(0, 0, 0, 1, 0);
         x.gate(1, 1, 0, 2, 1);
         x.route();
         faults("as routed", x, 0, 0);
-        x.damage(0, 0, 1);
-        x.damage(0, 1, 6);
-        faults("net 0 goes to the first point", x, 0, 0);
     }
 
     private static void noNetsAtAll() {
