@@ -15,6 +15,7 @@ public final class RoutingTest {
         nineTracksBeforeACircle();
         netBeforeRouting();
         netAfterRouting();
+        netAfterAllIsDamaged();
         netWrongNumbers();
         countOfNets();
         CHECKS.end();
@@ -184,6 +185,29 @@ public final class RoutingTest {
         netRow("routed", x, 11, 0, -1, 0, -1, -1, 0, 0);
         x.damage(1, 0, 0);
         CHECKS.due("the length is that of the routing", 2, () -> x.net(0, 6));
+    }
+
+    /** Tracks, lengths, delays and arrivals are those of the routing; points are counted as they are. */
+    private static void netAfterAllIsDamaged() {
+        for (int bits : new int[] {0, 7}) {
+            ChipForge x = Chips.smallRouted();
+            for (int line = 0; line < 4; line++) {
+                for (int c = 0; c < 24; c++) {
+                    x.damage(line, c, bits);
+                }
+            }
+            netRow("all points are " + bits, x, 0, 1, -1, 1, 0, 1, 1, 2);
+            netRow("all points are " + bits, x, 1, 2, 0, 0, 1, 2, 2, 4);
+            netRow("all points are " + bits, x, 2, 1, 1, 0, -1, -1, 0, 0);
+            CHECKS.due("delay of 0", 1.0, () -> x.delay(0));
+            CHECKS.due("delay of 1", 4.0, () -> x.delay(1));
+            CHECKS.due("arrival at 2", 7.0, () -> x.arrival(2));
+            CHECKS.due("tracks", 2, () -> x.count(2));
+            for (int what = 3; what <= 5; what++) {
+                int w = what;
+                CHECKS.due("count(" + w + ")", bits == 0 ? 0 : 96, () -> x.count(w));
+            }
+        }
     }
 
     private static void netWrongNumbers() {

@@ -9,6 +9,9 @@ public final class SignalsTest {
         delayThrows();
         arrivalOfNets();
         arrivalTakesTheLatestInput();
+        arrivalTakesTheGreatestSum();
+        arrivalAddsInDoublesInOrder();
+        arrivalAgainstTheNumbers();
         arrivalTakesTheTimeOfItsKind();
         arrivalThrows();
         arrivalBehindALoop();
@@ -120,6 +123,61 @@ public final class SignalsTest {
         y.route();
         double second = y.arrival(1) + y.delay(1);
         CHECKS.due("the second input is later", second + 1.0, () -> y.arrival(3));
+    }
+
+    /** The greatest ARRIVAL + DELAY is neither that of the greatest ARRIVAL nor that of both apart. */
+    private static void arrivalTakesTheGreatestSum() {
+        for (int first = 0; first < 2; first++) {
+            ChipForge x = new ChipForge();
+            x.gate(1, 0, 0, 1, 0);
+            x.gate(2, first == 0 ? 1 : 5, first == 0 ? 5 : 1, 2, 0);
+            x.gate(1, 5, 0, 3, 0);
+            x.route();
+            CHECKS.due("arrival of one input", 2.0, () -> x.arrival(1));
+            CHECKS.due("that of the other one", 0.0, () -> x.arrival(5));
+            CHECKS.due("which is far", true, () -> x.delay(5) > 2.0 + x.delay(1));
+            double sum = x.delay(5);
+            CHECKS.due("the greatest sum", sum + 1.0, () -> x.arrival(2));
+        }
+    }
+
+    /** With this time another order of the additions gives other doubles. */
+    private static void arrivalAddsInDoublesInOrder() {
+        ChipForge x = Chips.routed(Chips.chain());
+        x.time(0, 3.3);
+        double late = 0.0;
+        double timeBeforeDelay = 0.0;
+        double delayAndTimeFirst = 0.0;
+        for (int net = 0; net < 12; net++) {
+            int n = net;
+            double due = late;
+            CHECKS.due("ARRIVAL + DELAY, then + TIME: " + n, due, () -> x.arrival(n));
+            double wire = x.delay(n);
+            late = late + wire + 3.3;
+            timeBeforeDelay = timeBeforeDelay + 3.3 + wire;
+            delayAndTimeFirst = delayAndTimeFirst + (wire + 3.3);
+        }
+        double last = x.arrival(11) + x.delay(11) + 3.3;
+        double other = timeBeforeDelay;
+        double another = delayAndTimeFirst;
+        CHECKS.due("the order can be told", true, () -> last != other && last != another);
+    }
+
+    /** Each gate hangs on one that comes later. */
+    private static void arrivalAgainstTheNumbers() {
+        ChipForge x = new ChipForge();
+        for (int n = 0; n < 7; n++) {
+            x.gate(0, n + 1, 0, n, 1);
+        }
+        x.route();
+        double late = 0.0;
+        for (int net = 7; net >= 0; net--) {
+            int n = net;
+            double due = late;
+            CHECKS.due("arrival against the numbers: " + n, due, () -> x.arrival(n));
+            late = late + x.delay(n) + 1.0;
+        }
+        CHECKS.due("it goes up", true, () -> x.arrival(0) > 7.0);
     }
 
     private static void arrivalTakesTheTimeOfItsKind() {
