@@ -13,6 +13,8 @@ import java.util.TreeMap;
 
 /** Long runs of calls, answered by the program and by a second, plainer telling of the document. */
 public final class ModelTest {
+    /** No sum of powers of two, so that the order in which times are added shows in the doubles. */
+    private static final double TIME_STEP = 0.3;
     private static final int RUNS = 400;
     private static final int CALLS = 512;
 
@@ -98,7 +100,7 @@ public final class ModelTest {
             case "joined":
                 return random.nextInt(k == 2 ? 12 : 3);
             case "time":
-                return random.nextInt(101);
+                return random.nextInt(340);
             default:
                 return random.nextInt(3);
         }
@@ -125,7 +127,7 @@ public final class ModelTest {
             case "faults":
                 return x.faults(p[0] == 1);
             case "time":
-                return x.time(p[0], p[1] * 0.75);
+                return x.time(p[0], p[1] * TIME_STEP);
             case "delay":
                 return x.delay(p[0]);
             case "arrival":
@@ -191,9 +193,9 @@ public final class ModelTest {
                     needRouted();
                     return p[0] == 1 ? shorts() : opens();
                 case "time":
-                    need(in(p[0], 4) && p[1] * 0.75 >= 0 && p[1] * 0.75 <= 100);
+                    need(in(p[0], 4) && p[1] * TIME_STEP >= 0 && p[1] * TIME_STEP <= 100);
                     double was = times[p[0]];
-                    times[p[0]] = p[1] * 0.75;
+                    times[p[0]] = p[1] * TIME_STEP;
                     return was;
                 case "delay":
                     need(in(p[0], 12));
